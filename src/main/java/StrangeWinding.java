@@ -960,13 +960,13 @@ public final class StrangeWinding {
                 return readStreet(land);
             }
             if (tape.isWord("lane")) {
-                return readLane(land);
+                return readPair(land, true);
             }
             if (tape.isWord("person")) {
                 return readPerson(land);
             }
             if (tape.isWord("knows")) {
-                return readKnows(land);
+                return readPair(land, false);
             }
             if (tape.isWord("soon")) {
                 return readSoon(land);
@@ -990,22 +990,24 @@ public final class StrangeWinding {
             return true;
         }
 
-        private boolean readLane(Land land) {
+        /** A pair of STREETS (lane) or of PEOPLE (knows), that is not told yet. */
+        private boolean readPair(Land land, boolean ofStreets) {
+            int[] told = ofStreets ? land.lanes : land.known;
             tape.next();
-            int first = streetHere(land);
+            int first = numberHere(land, ofStreets);
             if (first == NONE) {
                 return false;
             }
             tape.next();
-            int second = streetHere(land);
+            int second = numberHere(land, ofStreets);
             if (second == NONE) {
                 return false;
             }
-            if (first == second || (land.lanes[first] >> second & 1) != 0) {
+            if (first == second || (told[first] >> second & 1) != 0) {
                 return tape.refuse(TOLD_ALREADY);
             }
-            land.lanes[first] |= 1 << second;
-            land.lanes[second] |= 1 << first;
+            told[first] |= 1 << second;
+            told[second] |= 1 << first;
             tape.next();
             return true;
         }
@@ -1029,7 +1031,7 @@ public final class StrangeWinding {
             if (!tape.passWord("at")) {
                 return false;
             }
-            land.home[number] = streetHere(land);
+            land.home[number] = numberHere(land, true);
             if (land.home[number] == NONE) {
                 return false;
             }
@@ -1038,26 +1040,6 @@ public final class StrangeWinding {
                 return false;
             }
             land.leftAtFirst[number] = tape.value;
-            tape.next();
-            return true;
-        }
-
-        private boolean readKnows(Land land) {
-            tape.next();
-            int first = personHere(land);
-            if (first == NONE) {
-                return false;
-            }
-            tape.next();
-            int second = personHere(land);
-            if (second == NONE) {
-                return false;
-            }
-            if (first == second || (land.known[first] >> second & 1) != 0) {
-                return tape.refuse(TOLD_ALREADY);
-            }
-            land.known[first] |= 1 << second;
-            land.known[second] |= 1 << first;
             tape.next();
             return true;
         }
@@ -1114,14 +1096,14 @@ public final class StrangeWinding {
             int first = 0;
             int second = 0;
             if (verb != LINE_HOUR) {
-                first = personHere(land);
+                first = numberHere(land, false);
                 if (first == NONE) {
                     return false;
                 }
                 tape.next();
             }
             if (verb == LINE_WALK || verb == LINE_WIND) {
-                second = verb == LINE_WALK ? streetHere(land) : personHere(land);
+                second = numberHere(land, verb == LINE_WALK);
                 if (second == NONE) {
                     return false;
                 }
@@ -1155,20 +1137,17 @@ public final class StrangeWinding {
             return !told || tape.refuse(TOLD_ALREADY);
         }
 
-        private int streetHere(Land land) {
-            int street = tape.isName() ? land.streetNamed(tape.word) : NONE;
-            if (street == NONE) {
-                tape.refuse(tape.isName() ? NOT_TOLD : CANT_STAND);
+        /** The number of the STREET, or PERSON, whose NAME is looked at; NONE: it is refused. */
+        private int numberHere(Land land, boolean ofStreet) {
+            if (!tape.isName()) {
+                tape.refuse(CANT_STAND);
+                return NONE;
             }
-            return street;
-        }
-
-        private int personHere(Land land) {
-            int person = tape.isName() ? land.personNamed(tape.word) : NONE;
-            if (person == NONE) {
-                tape.refuse(tape.isName() ? NOT_TOLD : CANT_STAND);
+            int number = ofStreet ? land.streetNamed(tape.word) : land.personNamed(tape.word);
+            if (number == NONE) {
+                tape.refuse(NOT_TOLD);
             }
-            return person;
+            return number;
         }
     }
 

@@ -70,6 +70,13 @@ public final class ForesightTest {
                 + "snap 99;soon 9;winds 40;");
         Check.due("not within 99", z.stops(0), -1);
         Check.due("not within 99", z.august(), -1);
+        // Nine windings of 10 hours each are worn off with the 9 of the beginning; 7 of 13 last an hour longer.
+        StrangeWinding ten = Check.told("street a;person p plain at a left 9;person q sun at a left 99;soon 9;winds 10;");
+        Check.due("the 99th hour", ten.stops(0), 99);
+        Check.due("the 99th hour", ten.august(), 99);
+        StrangeWinding thirteen = Check.told("street a;person p plain at a left 9;person q sun at a left 99;soon 7;winds 13;");
+        Check.due("the 100th hour", thirteen.stops(0), -1);
+        Check.due("the 100th hour", thirteen.august(), -1);
         StrangeWinding once = Check.told("street a;person p plain at a left 1;person h hermit at a left 1;"
                 + "person q plain at a left 0;winds 1;soon 1;");
         Check.due("first time he sits", once.stops(2), 0);
@@ -170,6 +177,9 @@ public final class ForesightTest {
         Check.due("in all", x.sets(0, 1), 0);
         Check.due("in some", x.sets(0, 2), 14);
         Check.due("any parts: the first", x.ask(0), 1);
+        Check.due("ask looks for itself", x.sets(4, 0) == 16 && x.ask(1) == 0, true);
+        Check.due("others, though there are sets", x.sets(0, 3), -1);
+        Check.due("others, though there are sets", x.sets(0, -1), -1);
         Check.due("told", x.tale(0, 11), true);
         Check.due("q or s", x.sets(0, 0), 2);
         Check.due("in all", x.sets(0, 1), 0);
@@ -188,8 +198,6 @@ public final class ForesightTest {
         Check.due("no set", x.ask(0), -1);
         Check.due("others", x.sets(6, 0), -1);
         Check.due("others", x.sets(-1, 0), -1);
-        Check.due("others", x.sets(0, 3), -1);
-        Check.due("others", x.sets(0, -1), -1);
         Check.due("others", x.ask(6), -1);
         Check.due("others", x.tale(6, 1), false);
         Check.due("others", x.tale(-1, 1), false);
@@ -319,10 +327,24 @@ public final class ForesightTest {
         for (int seed = 0; seed < 60; seed++) {
             Check.due("seed " + seed, x.years(seed, 1, 2), mendedFirst(seed) ? 0 : 2);
         }
+        walksByDraws();
         Check.due("all is as ahead", x.count(4) + x.count(8) + x.count(6) + x.count(11), 0);
         x.hour();
         Check.due("those of the years alone", x.years(1, 1, 1), 0);
         Check.due("those of the years alone", x.years(1, 1, 0), 0);
+    }
+
+    private static void walksByDraws() {
+        StrangeWinding x = Check.told("street a;street b;street c;lane a b;lane b c;person p hermit at a left 9;"
+                + "person q sun at b left 9;soon 1;winds 4;");
+        for (int seed = 0; seed < 60; seed++) {
+            long g = (seed * 1103515245L + 12345L) % 2147483648L;
+            long who = g / 65536 % 2;
+            g = (g * 1103515245L + 12345L) % 2147483648L;
+            long where = g / 65536 % 3;
+            boolean met = who == 0 && where == 1 || who == 1 && where == 0;
+            Check.due("met by the drawn walk, seed " + seed, x.years(seed, 1, 0), met ? 1 : 0);
+        }
     }
 
     /** Two draws for the walk, the third below 9. */

@@ -195,6 +195,16 @@ public final class HandTest {
         Check.due("q wound p", y.wound(1, 0), 1);
         Check.due("p", y.person(0, 2), 6);
         Check.due("q", y.person(1, 2), 2);
+        StrangeWinding ten = Check.told("street a;person p plain at a left 10;person q plain at a left 10;winds 3;");
+        Check.due("10 is not less than 10", ten.hour(), 0);
+        Check.due("9 is", ten.hour(), 2);
+        StrangeWinding back = Check.told("street a;person p plain at a left 10;person q plain at a left 9;winds 3;");
+        Check.due("q's alone", back.hour(), 1);
+        StrangeWinding both = Check.told("street a;person p plain at a left 15;person q plain at a left 15;"
+                + "person r plain at a left 9;winds 9;snap 20;");
+        both.wind(2, 0);
+        both.wind(2, 1);
+        Check.due("two are snapped", both.count(6), 3);
         StrangeWinding z = Check.told("street a;person p plain at a left 4;person q plain at a left 9;winds 9;snap 15;soon 9;");
         Check.due("q snaps, and does not wind back", z.hour(), 1);
         Check.due("snapped", z.count(6), 2);

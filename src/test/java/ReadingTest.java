@@ -69,6 +69,17 @@ public final class ReadingTest {
         landIs("soon", at(1, "soon"));
         landIs("soon 3,", at(1, "soon 3"));
         landIs("soon 3;;", at(1, "soon 3;"));
+        for (String word : "street lane person knows soon snap winds".split(" ")) {
+            landIs("x" + word.substring(1) + " 1;", 1);
+            landIs(word.substring(0, word.length() - 1) + "x 1;", 1);
+            landIs(word, at(1, word));
+            landIs(word + ";", at(1, word));
+        }
+        StrangeWinding x = new StrangeWinding();
+        Check.land(x, "soon 3333333333;");
+        Check.due("what the tape held is gone", Check.land(x, "soon 3"), at(1, "soon 3"));
+        Check.land(x, "street abcdefghijkl;");
+        Check.due("what the tape held is gone", Check.land(x, "street a"), at(1, "street a"));
     }
 
     private static void landFaults() {
@@ -100,6 +111,10 @@ public final class ReadingTest {
         landIs(TWO + "lane p a;", at(2, TWO + "lane "));
         landIs(TWO + "lane a p;", at(2, TWO + "lane a "));
         landIs("street a;person p king at a left 1;", at(1, "street a;person p "));
+        for (String cut : "person;person p;person p sun;person p sun at;person p sun at a;person p sun at a left".split(";")) {
+            landIs("street a;" + cut + ";", at(1, "street a;" + cut));
+            landIs("street a;" + cut, at(1, "street a;" + cut));
+        }
         landIs("street a;person p sun in a left 1;", at(1, "street a;person p sun "));
         landIs("street a;person p sun at b left 1;", at(2, "street a;person p sun at "));
         landIs("street a;person p sun at p left 1;", at(2, "street a;person p sun at "));
@@ -183,6 +198,11 @@ public final class ReadingTest {
         weekIs(x, "hour 1;", at(1, "hour "));
         weekIs(x, "hour", at(1, "hour"));
         weekIs(x, "street c;", 1);
+        for (String cut : "walk;walk p;wind;wind p;mend".split(";")) {
+            weekIs(x, cut + ";", at(1, cut));
+        }
+        weekIs(x, "xalk p b;", 1);
+        weekIs(x, "xour;", 1);
         Check.due("a fault leaves the WEEK", x.count(9), 2);
         String forty = "hour;".repeat(40);
         weekIs(x, forty, 0);
@@ -206,7 +226,9 @@ public final class ReadingTest {
         x.hour();
         x.walk(0, 1);
         x.tale(0, 3);
-        x.mark(2, false);
+        for (int mark = 0; mark < 4; mark++) {
+            x.mark(mark, false);
+        }
         Check.week(x, "hour;");
         Check.land(x, TWO);
         int[] due = {2, 2, 3, 60, 0, 0, 0, 17, 0, 0, 0, 0, 0, -1};
@@ -216,8 +238,19 @@ public final class ReadingTest {
         Check.due("at home", x.person(0, 1), 0);
         Check.due("strangers again", x.person(0, 5), 2);
         Check.due("the law is gone", x.gives(0, 1), 22);
-        Check.due("no mark", x.mark(2, true), false);
+        for (int mark = 0; mark < 4; mark++) {
+            Check.due("no mark", x.mark(mark, true), false);
+        }
         Check.due("no undo", x.undo(), false);
+        x.walk(0, 1);
+        x.wind(1, 0);
+        Check.land(x, "street b;street a;person q sun at a left 2;person p sun at a left 2;");
+        Check.due("no lanes", x.lanes(0) + x.lanes(1), 0);
+        Check.due("no windings", x.count(8) + x.wound(1, 0), 0);
+        Check.land(x, TWO + "soon 2;snap 33;knows p q;winds 5;lane;");
+        Check.land(x, TWO);
+        Check.due("nothing of a LAND with a FAULT", x.person(0, 5) + x.count(2) + x.count(3) + x.gives(0, 1),
+                2 + 3 + 60 + 22);
         Check.land(x, "");
         Check.due("an empty LAND", x.count(0) + x.count(1), 0);
         Check.due("week knows no name", Check.week(x, "mend p;"), 2 + 16 * 5);
