@@ -24,6 +24,10 @@ final class Check {
         due(call, got ? 1 : 0, want ? 1 : 0);
     }
 
+    static void alike(String call, String got, String want) {
+        due(call + " is " + got + ", and not " + want, got.equals(want), true);
+    }
+
     static boolean isWrong() {
         return wrong != 0;
     }
