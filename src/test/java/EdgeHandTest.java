@@ -18,6 +18,7 @@ public final class EdgeHandTest {
         engagedAndTinkers();
         marks();
         counts();
+        countsWhenFull();
         Check.end();
     }
 
@@ -942,6 +943,28 @@ public final class EdgeHandTest {
         }
         for (int what : new int[] {-1, 13, 14, -2, 256, Integer.MIN_VALUE, Integer.MAX_VALUE}) {
             Check.due("count " + what, x.count(what), -1);
+        }
+    }
+
+    // Promise 30: the most that each can be
+    private static void countsWhenFull() {
+        String text = "street a;street b;street c;street d;street e;";
+        for (int p = 0; p < 6; p++) {
+            text += "person p" + "abcdef".charAt(p) + " sun at " + "abcdea".charAt(p) + " left 99;";
+        }
+        StrangeWinding x = Check.told(text + "soon 9;snap 99;");
+        Check.due("hours left of six", x.count(7), 594);
+        for (int p = 0; p < 6; p++) {
+            Check.due("tale", x.tale(p, 99), true);
+        }
+        for (int i = 0; i < 100; i++) {
+            x.hour();
+        }
+        Check.week(x, "hour;".repeat(40));
+        Check.feed(x, "x".repeat(1000));
+        int[] due = {5, 6, 9, 99, 100, 63, 0, 0, 0, 40, 6, 16, 1000};
+        for (int what = 0; what <= 12; what++) {
+            Check.due("count " + what, x.count(what), due[what]);
         }
     }
 }
