@@ -42,6 +42,7 @@ public final class EdgeForesightTest {
         standCounts();
         standOfEqualOnes();
         standWhereHeCould();
+        standByTheFirst();
     }
 
     private static void walking() {
@@ -66,6 +67,7 @@ public final class EdgeForesightTest {
         asItIsNow();
         asksThatPart();
         asksThatDoNot();
+        asksForTheFirstAndTheLast();
     }
 
     private static void meeting() {
@@ -282,6 +284,18 @@ public final class EdgeForesightTest {
         Check.due("his own has as many", Check.told(each + "person s plain at e left 9;knows p q;").stand(0), 3);
     }
 
+    // "most others": PERSON 0 is one of them, and the last one
+    private static void standByTheFirst() {
+        StrangeWinding x = Check.told("street a;street b;lane a b;person p plain at b left 9;person q plain at a left 9;");
+        Check.due("p is at b", x.stand(1), 1);
+        x.walk(0, 0);
+        Check.due("p is at a", x.stand(1), 0);
+        StrangeWinding y = Check.told(CLIQUE + "person pa plain at a left 9;person pb plain at a left 9;"
+                + "person pc plain at a left 9;person pd plain at a left 9;person pe plain at a left 9;"
+                + "person pf plain at e left 9;knows pa pb;knows pa pc;knows pa pd;knows pa pe;");
+        Check.due("the sixth is at e", y.stand(0), 4);
+    }
+
     // "the STREET to which he could WALK now, or stay in"
     private static void standWhereHeCould() {
         StrangeWinding x = Check.told(ROW + "street d;person p plain at a left 9;person q plain at c left 9;"
@@ -294,7 +308,8 @@ public final class EdgeForesightTest {
 
     // "behind so many HOURS (1 to 24)"
     private static void oneToTwentyFourHours() {
-        StrangeWinding x = Check.told("street a;person p sun at a left 25;");
+        // Nobody would SIT behind 25 hours: those are refused for their number alone.
+        StrangeWinding x = Check.told("street a;person p sun at a left 99;");
         for (int hours = -1; hours <= 26; hours++) {
             boolean within = hours >= 1 && hours <= 24;
             Check.due("hours " + hours, x.fewest(hours, 0), within ? 0 : -2);
@@ -566,6 +581,34 @@ public final class EdgeForesightTest {
         Check.due("nobody could have", Check.told("street a;person p plain at a left 4;").ask(0), -1);
         Check.due("others", x.ask(3), -1);
         Check.due("others", x.ask(-1), -1);
+    }
+
+    // "the other one": PERSON 0, and PERSON 5
+    private static void asksForTheFirstAndTheLast() {
+        StrangeWinding x = Check.told("street a;person p plain at a left 4;person q plain at a left 4;winds 3;");
+        Check.due("with p, or not", x.sets(1, 0) * 100 + x.sets(1, 1) * 10 + x.sets(1, 2), 201);
+        Check.due("p parts them", x.ask(1), 0);
+        x.tale(1, 7);
+        Check.due("p alone", x.sets(1, 0) * 100 + x.sets(1, 1) * 10 + x.sets(1, 2), 111);
+        Check.due("nothing to ask", x.ask(1), -1);
+        StrangeWinding y = Check.told("street a;street b;person pa plain at b left 4;person pb plain at b left 4;"
+                + "person pc plain at b left 4;person pd plain at b left 4;person pe plain at a left 4;"
+                + "person pf plain at a left 4;winds 3;");
+        Check.due("the sixth parts them", y.ask(4), 5);
+        Check.due("the sixth", y.sets(4, 0) * 100 + y.sets(4, 2), 232);
+        StrangeWinding all = Check.told("street a;person pa plain at a left 1;person pb plain at a left 1;"
+                + "person pc plain at a left 1;person pd plain at a left 1;person pe plain at a left 1;"
+                + "person pf plain at a left 1;winds 1;");
+        for (int p = 0; p < 6; p++) {
+            Check.due("32 sets of five others", all.sets(p, 0), 32);
+            Check.due("all but himself", all.sets(p, 2), 63 - (1 << p));
+            Check.due("none in all", all.sets(p, 1), 0);
+            Check.due("the first of equal ones, not himself", all.ask(p), p == 0 ? 1 : 0);
+            all.tale(p, 6);
+            Check.due("all five", all.sets(p, 0) * 100 + all.sets(p, 1), 163 - (1 << p));
+            all.tale(p, 7);
+            Check.due("a sixth there is not", all.sets(p, 0), 0);
+        }
     }
 
     // "behind one of so many (1 to 6) HOURS"

@@ -6,6 +6,7 @@ public final class EdgeHandTest {
 
     public static void main(String[] args) {
         nothingAtFirst();
+        yearsOfNobody();
         streetsWithoutPeople();
         strangers();
         sitting();
@@ -152,6 +153,26 @@ public final class EdgeHandTest {
         Check.due("mark", x.mark(0, true), false);
     }
 
+    // "if there are PEOPLE": none are left of an elder LAND, nor of one that was refused.
+    private static void yearsOfNobody() {
+        StrangeWinding x = new StrangeWinding();
+        Check.land(x, "street a;person p plain at b left 3;");
+        Check.land(x, "street a;person p plain at c left 3;");
+        for (int hours = 1; hours <= 99; hours += 14) {
+            for (int what = 0; what <= 2; what++) {
+                Check.due("refused, years " + hours, x.years(hours, hours, what), 0);
+            }
+        }
+        String told = "street a;street b;lane a b;person p plain at b left 3;person q plain at b left 0;";
+        Check.land(x, told);
+        Check.land(x, told);
+        Check.land(x, "street a;person p plain at c left 3;");
+        Check.due("an empty one", x.land(), 0);
+        for (int what = 0; what <= 2; what++) {
+            Check.due("empty, years", x.years(7, 99, what), 0);
+        }
+    }
+
     // STREETS told, nobody in them.
     private static void streetsWithoutPeople() {
         StrangeWinding x = Check.told("street a;street b;street c;street d;street e;lane e a;");
@@ -231,6 +252,8 @@ public final class EdgeHandTest {
         Check.due("snaps", x.wind(0, 1), 0);
         Check.due("sits", x.person(1, 4), 1);
         Check.due("bits", x.count(5), 2);
+        Check.due("1 SNAPPED", x.person(1, 3), 1);
+        Check.due("the other one is not", x.person(0, 3), 0);
     }
 
     // "WALK: one who does not SIT"
@@ -399,6 +422,15 @@ public final class EdgeHandTest {
             Check.due("one less", x.gives(0, 1), 6 - p);
             Check.due("in the STREET of who is wound", x.gives(0, p), p - 3);
             Check.due("who winds is elsewhere", x.gives(p, 0), 2 + 5 - p);
+        }
+        StrangeWinding six = Check.told("street a;street b;person p plain at a left 9;person q plain at a left 9;"
+                + "person r plain at a left 9;person s plain at b left 9;person t plain at b left 9;person u plain at b left 9;"
+                + "winds crowd+1;");
+        for (int p = 0; p < 6; p++) {
+            for (int other = 0; other < 6; other++) {
+                int due = p == other ? -1 : p / 3 == other / 3 ? 2 : 3;
+                Check.due("crowd about " + other + ", wound by " + p, six.gives(p, other), due);
+            }
         }
     }
 

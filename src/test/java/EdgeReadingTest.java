@@ -36,6 +36,7 @@ public final class EdgeReadingTest {
         wordsOfEight();
         numbersOfFour();
         eightSigns();
+        whatIsNoneIsNoSign();
     }
 
     private static void names() {
@@ -84,10 +85,12 @@ public final class EdgeReadingTest {
     private static void faults() {
         theEndIsAToken();
         theLastPlace();
+        noWordIsLeftOut();
         theFirstFromTheLeft();
         theLeastOfAToken();
         nothingIsALand();
         aLandBeginsAnew();
+        nothingOfAnElderLand();
     }
 
     private static void landIs(String text, int fault) {
@@ -210,6 +213,8 @@ public final class EdgeReadingTest {
         landIs("  soon 3  ;  ", 0);
         landIs(" !", at(1, " "));
         landIs("str eet a;", 1);
+        landIs("ztreet a;", 1);
+        landIs("streez a;", 1);
         landIs("street a;person p pl ain at a left 1;", at(1, "street a;person p "));
         landIs("snap 1\n0;", at(1, "snap 1\n"));
         weekIs(" hour\n;\n\nhour ; ", 0);
@@ -266,6 +271,23 @@ public final class EdgeReadingTest {
         landIs("winds [goes];", at(1, "winds "));
         landIs("winds goes>met;", at(1, "winds goes"));
         landIs("winds goes/met;", at(1, "winds goes"));
+    }
+
+    // "All else (a longer WORD or NUMBER, too ...) is none": not the sign whose code the NUMBER is, or that was ahead of it
+    private static void whatIsNoneIsNoSign() {
+        for (char sign : "()<=+-*;".toCharArray()) {
+            String number = "000" + (int) sign;
+            landIs("winds goes " + number + " met;", at(1, "winds goes "));
+            landIs("winds goes 0" + number + " met;", at(1, "winds goes "));
+            landIs("winds 0" + number + " met);", at(1, "winds "));
+            landIs("soon 3 0" + number + " ", at(1, "soon 3 "));
+            weekIs("hour 0" + number + " ", at(1, "hour "));
+        }
+        landIs("soon 3;abcdefghi", at(1, "soon 3;"));
+        landIs("winds (abcdefghi1);", at(1, "winds ("));
+        landIs("winds (1)abcdefghi;", at(1, "winds (1)"));
+        landIs("winds 1+abcdefghi 1;", at(1, "winds 1+"));
+        weekIs("hour;abcdefghi", at(1, "hour;"));
     }
 
     // "A NAME is another WORD than street, lane, ..., the KINDS, not, and, or"
@@ -393,6 +415,12 @@ public final class EdgeReadingTest {
         int[] kinds = {0, 1, 2, 3, 0, 3};
         for (int p = 0; p < 6; p++) {
             Check.due("kind of " + p, x.person(p, 0), kinds[p]);
+        }
+        for (String word : "a zat az b att".split(" ")) {
+            landIs("street a;person p sun " + word + " a left 1;", at(1, "street a;person p sun "));
+        }
+        for (String word : "a zeft lefz b right".split(" ")) {
+            landIs("street a;person p sun at a " + word + " 1;", at(1, "street a;person p sun at a "));
         }
         for (String word : "a plains sunn hermi not at left knows x 3 (".split(" ")) {
             landIs("street a;person p " + word + " at a left 1;", at(1, "street a;person p "));
@@ -684,6 +712,32 @@ public final class EdgeReadingTest {
         weekIs(" ".repeat(996) + "hour", at(1, " ".repeat(1000)));
     }
 
+    // "street NAME ;  lane NAME NAME ; ...": none of the words of a line may be left out
+    private static void noWordIsLeftOut() {
+        String[] lines = {"street c ;", "lane a b ;", "person p sun at a left 3 ;", "knows q r ;", "soon 3 ;", "snap 3 ;",
+            "winds ( goes ) ;", "winds not goes ;", "winds goes < met ;"};
+        String told = "street a;street b;person q sun at a left 3;person r sun at a left 3;";
+        for (String line : lines) {
+            landIs(told + line, 0);
+            String ahead = "";
+            for (String word : line.split(" ")) {
+                boolean isWhole = word.equals(";") || line.startsWith("winds goes") && word.equals("<");
+                landIs(told + ahead + ";", isWhole ? 0 : ahead.isEmpty() ? at(1, told) : at(1, told + ahead));
+                landIs(told + ahead, ahead.isEmpty() ? 0 : at(1, told + ahead));
+                ahead += word + " ";
+            }
+        }
+        for (String line : new String[] {"walk p a ;", "wind p q ;", "mend p ;", "hour ;"}) {
+            weekIs(line, 0);
+            String ahead = "";
+            for (String word : line.split(" ")) {
+                weekIs(ahead + ";", word.equals(";") ? 0 : at(1, ahead));
+                weekIs(ahead, ahead.isEmpty() ? 0 : at(1, ahead));
+                ahead += word + " ";
+            }
+        }
+    }
+
     // "of the first token from the left that is wrong"
     private static void theFirstFromTheLeft() {
         landIs("soon 0;street at;!", at(4, "soon "));
@@ -738,5 +792,30 @@ public final class EdgeReadingTest {
             Check.due("count " + what, x.count(what), due[what]);
         }
         Check.alike("as new", Portrait.takenApart(x), Portrait.takenApart(Check.told(text)));
+    }
+
+    // "a LAND is the LAND from then on": no lane, no acquaintance, no law, no number of an elder one is left
+    private static void nothingOfAnElderLand() {
+        String bare = "street a;street b;person p plain at a left 7;person q plain at a left 8;";
+        String rich = bare + "lane a b;knows p q;soon 1;snap 9;winds (goes+thumb*2)*(1+met)-crowd+not not 0+1+1+1+1+1+1;";
+        StrangeWinding x = new StrangeWinding();
+        for (int i = 0; i < 3; i++) {
+            Check.due("rich", Check.land(x, rich), 0);
+            Check.due("spoilt", Check.land(x, rich + "!"), at(1, rich));
+            Check.due("rich yet", x.count(2) * 100 + x.count(3), 109);
+            Check.due("bare", Check.land(x, bare), 0);
+            Check.due("no lane", x.lanes(0) + x.lanes(1), 0);
+            Check.due("strangers", x.person(0, 5) * 10 + x.person(1, 5), 21);
+            Check.due("soon, snap", x.count(2) * 100 + x.count(3), 360);
+            Check.due("without winds", x.gives(0, 1) * 100 + x.gives(1, 0), 2223);
+            Check.due("rich", Check.land(x, rich), 0);
+            Check.due("a shorter law", Check.land(x, bare + "winds 5;"), 0);
+            Check.due("by it alone", x.gives(0, 1) * 100 + x.gives(1, 0), 505);
+            Check.due("a not", Check.land(x, bare + "winds not 5;"), 0);
+            Check.due("a not", Check.land(x, bare + "winds not 5;"), 0);
+            Check.due("is", x.gives(0, 1), 0);
+            Check.due("no not", Check.land(x, bare + "winds 5;"), 0);
+            Check.due("is left", x.gives(0, 1), 5);
+        }
     }
 }
